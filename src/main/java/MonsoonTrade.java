@@ -11,7 +11,7 @@ public final class MonsoonTrade {
     private static final int MONTHS = 12, MONTH_DAYS = 30, MOST_DAY = 9999;
     private static final int SHEETS = 4, SORTS = 3, CELLS = 40, TAPE = 160, MOST_LEGS = 3;
 
-    private static final int KINDS = 6, VENTURE = 0, SHARE = 1, LOAN = 2, TRUST = 3, SALE = 4, BOTTOM = 5;
+    private static final int KINDS = 6, SHARE = 1, LOAN = 2, TRUST = 3, SALE = 4, BOTTOM = 5;
     /** Of each KIND the one that it is directly under; -1: it is under none. */
     private static final int[] UNDER = {-1, 0, 1, 0, 3, 2};
 
@@ -47,7 +47,7 @@ public final class MonsoonTrade {
             sheets[i] = new Sheet();
         }
         tape.addAll(FIRST_TEXT);
-        readTape();
+        text();
     }
 
     // ---- ports, winds and ways
@@ -357,7 +357,17 @@ public final class MonsoonTrade {
     }
 
     public int text() {
-        return readTape();
+        if (textCount >= TEXTS) {
+            return FULL;
+        }
+        int fault = reader.read();
+        tape.clear();
+        if (fault != NONE) {
+            return FAULT_BASE - fault;
+        }
+        texts[textCount].keep(reader);
+        textCount++;
+        return textCount - 1;
     }
 
     public int force(int text) {
@@ -520,8 +530,10 @@ public final class MonsoonTrade {
             return false;
         }
         sea.tellItself(d.port, today);
-        planner.learn(d, last);
-        return planner.find(d, today, n);
+        planner.learn(d, today, last);
+        planner.find(n);
+        planner.trace();
+        return planner.legs > 0;
     }
 
     private int lostDhows() {
@@ -600,21 +612,6 @@ public final class MonsoonTrade {
         v.got += d.pay(due);
         boolean stays = v.kind == SHARE || v.kind == LOAN && v.owed > 0;
         v.over = !stays;
-    }
-
-    /** What the call for a TEXT answers; the constructor reads TEXT 0 by it too. */
-    private int readTape() {
-        if (textCount >= TEXTS) {
-            return FULL;
-        }
-        int fault = reader.read();
-        tape.clear();
-        if (fault != NONE) {
-            return FAULT_BASE - fault;
-        }
-        texts[textCount].keep(reader);
-        textCount++;
-        return textCount - 1;
     }
 
     /** WORDS that a PORT or a DHOW has: of each PORT its day (NONE: no WORD) and PRICES. */
@@ -756,7 +753,6 @@ public final class MonsoonTrade {
             comes = NONE;
             purse = 0;
             Arrays.fill(goods, 0);
-            news.forget();
         }
     }
 
@@ -851,7 +847,9 @@ public final class MonsoonTrade {
         private static final int KEY_PART = 128, KEY_FOOD = 129, KEY_LOAN = 130;
         private static final int KEY_OR = 131, KEY_AND = 132, KEY_NOT = 133;
         /** The NAMES' kinds, in the order of the reckoner's values. */
-        private static final int GAIN = 140, DAYS = 141, MEN = 142, PARTS_NAME = 143, OWED = 144, MONTH = 145;
+        private static final int GAIN = 134, DAYS = 135, MEN = 136, PARTS_NAME = 137, OWED = 138, MONTH = 139;
+        /** KEYS and NAMES in the order of their kinds, a blank behind each. */
+        private static final String WORDS = "part food loan or and not gain days men parts owed month ";
         private static final int MOST_DIGITS = 4;
         private static final String SIGNS = "();+-*<=";
 
@@ -904,9 +902,23 @@ public final class MonsoonTrade {
             while (place < size && isLetter(bytes[place])) {
                 place++;
             }
-            kind = keyKind();
-            if (kind == WRONG) {
-                kind = nameKind();
+            kind = WRONG;
+            int word = 0;
+            int at = start;
+            boolean same = true;
+            for (int i = 0; i < WORDS.length(); i++) {
+                char sign = WORDS.charAt(i);
+                if (sign != ' ') {
+                    same = same && at < place && bytes[at] == sign;
+                    at++;
+                    continue;
+                }
+                if (same && at == place) {
+                    kind = KEY_PART + word;
+                }
+                word++;
+                at = start;
+                same = true;
             }
         }
 
@@ -926,57 +938,6 @@ public final class MonsoonTrade {
             int b = bytes[place];
             kind = b > 0 && SIGNS.indexOf((char) b) >= 0 ? b : WRONG;
             place++;
-        }
-
-        private int keyKind() {
-            if (isWord("part")) {
-                return KEY_PART;
-            }
-            if (isWord("food")) {
-                return KEY_FOOD;
-            }
-            if (isWord("loan")) {
-                return KEY_LOAN;
-            }
-            if (isWord("or")) {
-                return KEY_OR;
-            }
-            if (isWord("and")) {
-                return KEY_AND;
-            }
-            return isWord("not") ? KEY_NOT : WRONG;
-        }
-
-        private int nameKind() {
-            if (isWord("gain")) {
-                return GAIN;
-            }
-            if (isWord("days")) {
-                return DAYS;
-            }
-            if (isWord("men")) {
-                return MEN;
-            }
-            if (isWord("parts")) {
-                return PARTS_NAME;
-            }
-            if (isWord("owed")) {
-                return OWED;
-            }
-            return isWord("month") ? MONTH : WRONG;
-        }
-
-        /** Whether the bytes from the TOKEN's start on, up to the place, are this word. */
-        private boolean isWord(String word) {
-            if (place - start != word.length()) {
-                return false;
-            }
-            for (int i = 0; i < word.length(); i++) {
-                if (bytes[start + i] != word.charAt(i)) {
-                    return false;
-                }
-            }
-            return true;
         }
 
         private static boolean isBlank(byte b) {
@@ -1252,6 +1213,9 @@ public final class MonsoonTrade {
         private final News news = new News();
         private final int[] goods = new int[MOST_LEGS];
         private final int[] stops = new int[MOST_LEGS];
+        private int port;
+        private int day;
+        private int coins;
         private int hold;
         private int last;
         private int worth;
@@ -1262,65 +1226,65 @@ public final class MonsoonTrade {
             this.sea = sea;
         }
 
-        /** Takes the WORDS of a DHOW in a PORT, with those of the PORT. */
-        void learn(Dhow d, int lastDay) {
+        /** Takes the WORDS of a DHOW in a PORT, with those of the PORT, and sells by them what is aboard. */
+        void learn(Dhow d, int today, int lastDay) {
+            port = d.port;
+            day = today;
             hold = d.hold;
             last = lastDay;
             news.forget();
             news.hear(d.news);
-            news.hear(sea.ports[d.port].news);
+            news.hear(sea.ports[port].news);
+            coins = d.purse;
+            for (int good = 0; good < GOODS; good++) {
+                coins += d.goods[good] * news.priceOf(port, good);
+            }
         }
 
-        /** Whether there is an ORDER of 1 to n legs. */
-        boolean find(Dhow d, int day, int n) {
-            int coins = d.purse;
-            for (int good = 0; good < GOODS; good++) {
-                coins += d.goods[good] * news.priceOf(d.port, good);
-            }
+        /** Finds the WORTH and the legs of the ORDER of 1 to n legs; 0 legs: there is none. */
+        void find(int n) {
             worth = NONE;
             legs = 0;
             for (int k = 1; k <= n; k++) {
-                int most = most(d.port, day, coins, k);
+                int most = most(port, day, coins, k);
                 if (most > worth) {
                     worth = most;
                     legs = k;
                 }
             }
-            trace(d.port, day, coins);
-            return legs > 0;
         }
 
         /**
          * The greatest WORTH by just so many legs; NONE: there are none. More COINS at a PORT never
          * bring less (what loses is not bought), so the best GOOD of each leg by itself is best.
          */
-        private int most(int from, int day, int coins, int legsLeft) {
+        private int most(int from, int leaves, int purse, int legsLeft) {
             if (legsLeft <= 0) {
-                return coins;
+                return purse;
             }
             int most = NONE;
             for (int to = 0; to < sea.size; to++) {
-                int then = arrival(from, to, day);
+                int then = arrival(from, to, leaves);
                 if (then != NONE) {
-                    most = Math.max(most, most(to, then, mostByOneLeg(from, to, coins), legsLeft - 1));
+                    most = Math.max(most, most(to, then, mostByOneLeg(from, to, purse), legsLeft - 1));
                 }
             }
             return most;
         }
 
-        private int mostByOneLeg(int from, int to, int coins) {
-            int most = coins;
+        private int mostByOneLeg(int from, int to, int purse) {
+            int most = purse;
             for (int good = 0; good < GOODS; good++) {
-                most = Math.max(most, coinsAfter(from, to, good, coins));
+                most = Math.max(most, coinsAfter(from, to, good, purse));
             }
             return most;
         }
 
         /** Takes leg by leg the least choice behind which the WORTH can still be had. */
-        private void trace(int port, int day, int coins) {
+        void trace() {
             int from = port;
-            comes = day;
             int purse = coins;
+            comes = day;
             for (int i = 0; i < legs && i < MOST_LEGS; i++) {
                 choose(i, from, purse);
                 purse = coinsAfter(from, stops[i], goods[i], purse);
@@ -1329,11 +1293,11 @@ public final class MonsoonTrade {
             }
         }
 
-        private void choose(int i, int from, int coins) {
+        private void choose(int i, int from, int purse) {
             for (int good = 0; good <= GOODS; good++) {
                 for (int to = 0; to < sea.size; to++) {
                     int then = arrival(from, to, comes);
-                    if (then != NONE && most(to, then, coinsAfter(from, to, good, coins), legs - 1 - i) == worth) {
+                    if (then != NONE && most(to, then, coinsAfter(from, to, good, purse), legs - 1 - i) == worth) {
                         goods[i] = good;
                         stops[i] = to;
                         return;
@@ -1343,24 +1307,24 @@ public final class MonsoonTrade {
         }
 
         /** The day on which a leg's end would be reached; NONE: it can't be in the ORDER. */
-        private int arrival(int from, int to, int day) {
+        private int arrival(int from, int to, int leaves) {
             if (from == to || !news.knows(to)) {
                 return NONE;
             }
-            int crossing = sea.crossing(from, to, day);
-            return crossing == NONE || day + crossing > last ? NONE : day + crossing;
+            int crossing = sea.crossing(from, to, leaves);
+            return crossing == NONE || leaves + crossing > last ? NONE : leaves + crossing;
         }
 
         /** COINS behind a leg with as many of a GOOD as can be (GOODS: with none). */
-        private int coinsAfter(int from, int to, int good, int coins) {
+        private int coinsAfter(int from, int to, int good, int purse) {
             if (good >= GOODS) {
-                return coins;
+                return purse;
             }
             int cost = news.priceOf(from, good) + 1;
             if (cost <= 0) {
-                return coins;
+                return purse;
             }
-            return coins + Math.min(hold, coins / cost) * (news.priceOf(to, good) - cost);
+            return purse + Math.min(hold, purse / cost) * (news.priceOf(to, good) - cost);
         }
     }
 }

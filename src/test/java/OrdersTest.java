@@ -48,6 +48,8 @@ public final class OrdersTest {
         c.due("leg: n 4", x.leg(0, 4, 9999, 0), -2);
         c.due("leg: last -1", x.leg(0, 1, -1, 0), -2);
         c.due("leg: last 10000", x.leg(0, 1, 10000, 0), -2);
+        c.due("leg: last 0", x.leg(0, 1, 0, 0), -1);
+        c.due("leg -1", x.leg(0, 1, 9999, -1), -1);
         c.due("leg 1 of 1", x.leg(0, 3, 9999, 1), -1);
         c.due("leg 3", x.leg(0, 3, 9999, 3), -1);
         x.sail(0, 1);

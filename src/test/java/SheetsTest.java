@@ -42,16 +42,17 @@ public final class SheetsTest {
         c.due("1", x.cell(3, 1, 0), 1);
     }
 
-    /** The wind of a month, told by a way of 12 to greater X. */
+    /** The wind of a month, told by a way of 60 to greater X, or by the way back. */
     private static int windOf(MonsoonTrade x, int month) {
-        int days = x.way(0, 1, month * 30);
-        return days == -1 ? -2 : 12 / days - 2;
+        int there = x.way(0, 1, month * 30);
+        int back = x.way(1, 0, month * 30);
+        return there == -1 ? 2 - 60 / back : 60 / there - 2;
     }
 
     private static MonsoonTrade withPorts() {
         MonsoonTrade x = new MonsoonTrade();
         x.port(0, 0);
-        x.port(12, 0);
+        x.port(60, 0);
         return x;
     }
 

@@ -9,6 +9,8 @@ public final class TextsTest {
         feed();
         bytesOfFeed();
         tokens();
+        everyByte();
+        longTexts();
         faults();
         openOnes();
         values();
@@ -91,11 +93,38 @@ public final class TextsTest {
         for (String name : new String[] {"gain", "days", "men", "parts", "owed", "month"}) {
             c.due(name, textOf("part " + name + ";food " + name + ";loan " + name + ";"), 1);
         }
-        for (String word : new String[] {"gai", "gains", "day", "me", "mens", "owe", "months", "par", "x", "foo", "an"}) {
+        for (String word : new String[] {"gai", "gains", "day", "me", "mens", "owe", "months", "par", "x", "foo", "an", "gainz", "rain", "bays", "ten", "awed", "darts", "nonth", "q"}) {
             c.due(word, textOf("part 1+" + word + ";food 2;loan 3;"), -107);
         }
         for (String key : new String[] {"part", "food", "loan", "or", "and", "not"}) {
             c.due(key, textOf("part 1+" + key + ";food 2;loan 3;"), -107);
+        }
+    }
+
+    private static void everyByte() {
+        String standing = "0123456789 \n(-";
+        for (char b = 0; b < 256; b++) {
+            if (standing.indexOf(b) < 0) {
+                c.due("byte " + (int) b + " for a one", textOf("part " + b + " 1;food 2;loan 3;"), -105);
+            }
+            boolean blank = b == 32 || b == 10;
+            c.due("byte " + (int) b + " at the end", textOf("part 1;food 2;loan 3; " + b), blank ? 1 : -122);
+        }
+    }
+
+    private static void longTexts() {
+        MonsoonTrade x = new MonsoonTrade();
+        StringBuilder ones = new StringBuilder("1");
+        while (ones.length() < 142) {
+            ones.append("+1");
+        }
+        for (int i = 1; i < 6; i++) {
+            String text = "part" + ones + ";food" + i + ";loan9;";
+            c.due("its size", text.length(), 160);
+            c.due("a text of " + text.length(), Check.text(x, text), i);
+            c.due("part", x.says(i, 0, 0, 0, 0, 0, 0), 72);
+            c.due("food", x.says(i, 1, 0, 0, 0, 0, 0), i);
+            c.due("loan", x.says(i, 2, 0, 0, 0, 0, 0), 9);
         }
     }
 

@@ -15,6 +15,7 @@ public final class VenturesTest {
         endWithLittle();
         saleAheadOfLoan();
         forcedRule();
+        sixteen();
         for (int seed = 0; seed < 400; seed++) {
             againstWords(seed);
         }
@@ -252,6 +253,25 @@ public final class VenturesTest {
         c.due("loan got", x.ventureTold(0, 6), 871);
         c.due("loan owes", x.ventureTold(0, 4), 81);
         c.due("share got", x.ventureTold(1, 6), 0);
+    }
+
+    private static void sixteen() {
+        for (int way = 0; way < 2; way++) {
+            MonsoonTrade x = withDhow(100);
+            for (int i = 0; i < 16; i++) {
+                x.venture(i == 15 ? 0 : 1, 0, 10, 1);
+            }
+            x.begin(0);
+            x.sail(0, 1);
+            if (way == 0) {
+                x.lose(0);
+                c.due("all are over", x.count(8), 0);
+            } else {
+                x.days(4);
+                c.due("food of 15 men", x.end(0), 50);
+                c.due("the last is over", x.count(8), 15);
+            }
+        }
     }
 
     private static final String[] RULES = {
