@@ -297,13 +297,14 @@ public final class MonsoonTrade {
     }
 
     public int on(int venture, int dhow) {
-        if (!isVenture(venture) || ventures[venture].kind != LOAN || !isDhow(dhow) || dhows[dhow].lost) {
+        if (!isVenture(venture) || !isDhow(dhow) || dhows[dhow].lost) {
             return BAD;
         }
-        if (ventures[venture].dhow != NONE) {
+        Venture v = ventures[venture];
+        if (!v.waits()) {
             return STATE;
         }
-        ventures[venture].dhow = dhow;
+        v.dhow = dhow;
         return 1;
     }
 
@@ -752,6 +753,7 @@ public final class MonsoonTrade {
             port = NONE;
             comes = NONE;
             purse = 0;
+            stake = NONE;
             Arrays.fill(goods, 0);
         }
     }
@@ -788,6 +790,11 @@ public final class MonsoonTrade {
 
         boolean isOn(int someDhow) {
             return !over && dhow == someDhow;
+        }
+
+        /** Only LOANS come to wait: see goDown. */
+        boolean waits() {
+            return dhow == NONE;
         }
 
         void goDown() {

@@ -9,6 +9,8 @@ public final class VenturesTest {
         purse();
         ventureTold();
         on();
+        onOfEveryKind();
+        lossEndsTheVoyage();
         lossEndsAllButLoans();
         begin();
         end();
@@ -98,8 +100,8 @@ public final class VenturesTest {
         x.venture(3, 0, 77, 5);
         x.venture(5, 0, 77, 5);
         c.due("does not wait", x.on(0, 1), -3);
-        c.due("no loan", x.on(1, 1), -2);
-        c.due("a bottom is no loan", x.on(2, 1), -2);
+        c.due("no loan", x.on(1, 1), -3);
+        c.due("a bottom is no loan", x.on(2, 1), -3);
         c.due("venture 3", x.on(3, 1), -2);
         c.due("venture -1", x.on(-1, 1), -2);
         c.due("dhow 2", x.on(0, 2), -2);
@@ -108,6 +110,7 @@ public final class VenturesTest {
         x.lose(0);
         c.due("waits", x.ventureTold(0, 1), -1);
         c.due("on a lost one", x.on(0, 0), -2);
+        c.due("over, on a lost one", x.on(1, 0), -2);
         x.sail(1, 0);
         c.due("on one at sea", x.on(0, 1), 1);
         c.due("its dhow", x.ventureTold(0, 1), 1);
@@ -116,6 +119,38 @@ public final class VenturesTest {
         c.due("waits again", x.ventureTold(0, 1), -1);
         c.due("is not over", x.ventureTold(0, 5), 0);
         c.due("owed as it was", x.ventureTold(0, 4), 77);
+    }
+
+    private static void onOfEveryKind() {
+        MonsoonTrade x = withDhow(500);
+        x.dhow(0, 9, 9);
+        for (int kind = 0; kind < 6; kind++) {
+            x.venture(kind, 0, 50, 1);
+        }
+        for (int kind = 0; kind < 6; kind++) {
+            c.due("does not wait, of kind " + kind, x.on(kind, 1), -3);
+            c.due("on its own dhow, of kind " + kind, x.on(kind, 0), -3);
+            c.due("on no dhow, of kind " + kind, x.on(kind, 2), -2);
+        }
+        x.sail(0, 1);
+        x.lose(0);
+        for (int kind = 0; kind < 6; kind++) {
+            c.due("on a lost dhow, of kind " + kind, x.on(kind, 0), -2);
+            c.due("went down, of kind " + kind, x.on(kind, 1), kind == 2 ? 1 : -3);
+            c.due("its dhow, of kind " + kind, x.ventureTold(kind, 1), kind == 2 ? 1 : 0);
+        }
+    }
+
+    private static void lossEndsTheVoyage() {
+        MonsoonTrade x = withDhow(500);
+        x.begin(0);
+        x.sail(0, 1);
+        c.due("stake at sea", x.told(0, 5), 500);
+        x.lose(0);
+        c.due("stake of a lost dhow", x.told(0, 5), -1);
+        c.due("begin of a lost dhow", x.begin(0), -3);
+        c.due("end of a lost dhow", x.end(0), -3);
+        c.due("share of a lost dhow", x.venture(1, 0, 1, 1), -3);
     }
 
     private static void lossEndsAllButLoans() {
