@@ -1,8 +1,8 @@
 import java.util.Random;
 
 /**
- * Calls with any numbers in any state: none throws, a refused one changes nothing
- * (but winds that end outside), and the same calls give the same answers.
+ * Calls with any numbers in any state: none throws, the same calls give the same answers, and a refused one
+ * changes nothing (but winds that end outside): where it is left out, all is as where it was made.
  */
 public final class AnyCallsTest {
     private static final Check c = new Check("AnyCallsTest");
@@ -17,28 +17,40 @@ public final class AnyCallsTest {
     };
 
     public static void main(String[] args) {
-        for (int seed = 0; seed < 300; seed++) {
-            run(seed, seed % 3 == 0 ? 3 : 12);
+        for (int seed = 0; seed < 600; seed++) {
+            sameAnswers(seed, seed % 3 == 0 ? 3 : 12);
+        }
+        for (int seed = 0; seed < 2100; seed++) {
+            refusedOnesLeftOut(seed, seed % 3 == 0 ? 3 : 8);
         }
         c.finish();
     }
 
-    private static void run(int seed, int wildness) {
+    private static void sameAnswers(int seed, int wildness) {
         Random r = new Random(seed);
         Random again = new Random(seed);
         MonsoonTrade x = new MonsoonTrade();
         MonsoonTrade y = new MonsoonTrade();
-        for (int i = 0; i < 500; i++) {
-            String before = seed % 5 == 0 ? Check.all(x) : "";
-            long[] call = new long[1];
-            long answer = call(x, r, wildness, call);
-            c.due("the same call", call(y, again, wildness, call), answer);
-            boolean refused = answer <= -2 && answer >= -14 && call[0] != 24;
-            boolean partly = call[0] == 4 && answer == -12;
-            if (seed % 5 == 0 && refused && !partly) {
-                c.holds("refused call " + call[0] + " changes nothing", before.equals(Check.all(x)));
+        for (int i = 0; i < 400; i++) {
+            long answer = call(x, r, wildness);
+            c.due("the same call", call(y, again, wildness), answer);
+        }
+    }
+
+    private static void refusedOnesLeftOut(int seed, int wildness) {
+        Random r = new Random(seed);
+        MonsoonTrade x = new MonsoonTrade();
+        MonsoonTrade y = new MonsoonTrade();
+        for (int i = 0; i < 180; i++) {
+            long of = r.nextLong();
+            long answer = call(x, new Random(of), wildness);
+            boolean refused = answer <= -2 && answer >= -14 && answer != -12;
+            if (!refused) {
+                c.due("without refused ones", call(y, new Random(of), wildness), answer);
             }
         }
+        int aspect = seed % Tale.ASPECTS;
+        c.holds("refused ones change nothing (" + seed + ")", Tale.of(x, aspect).equals(Tale.of(y, aspect)));
     }
 
     private static int pick(Random r, int wildness, int least, int most) {
@@ -51,10 +63,8 @@ public final class AnyCallsTest {
         return least + r.nextInt(most - least + 1);
     }
 
-    private static long call(MonsoonTrade x, Random r, int w, long[] which) {
-        int k = r.nextInt(40);
-        which[0] = k;
-        switch (k) {
+    private static long call(MonsoonTrade x, Random r, int w) {
+        switch (r.nextInt(40)) {
             case 0: return x.port(pick(r, w, 0, 20), pick(r, w, 0, 20));
             case 1: return x.wants(pick(r, w, 0, 5), pick(r, w, 0, 3), pick(r, w, 1, 99), pick(r, w, 0, 9));
             case 2: return x.price(pick(r, w, 0, 5), pick(r, w, 0, 3));

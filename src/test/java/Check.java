@@ -45,41 +45,4 @@ final class Check {
         feed(x, text);
         return x.text();
     }
-
-    /** All that the calls that only tell can tell, as one text. */
-    static String all(MonsoonTrade x) {
-        StringBuilder s = new StringBuilder();
-        for (int i = 0; i < 9; i++) {
-            s.append(x.count(i)).append(' ');
-        }
-        for (int p = 0; p < 6; p++) {
-            for (int g = 0; g < 4; g++) {
-                s.append(x.price(p, g)).append(' ');
-            }
-            for (int month = 0; month < 12; month++) {
-                s.append(x.way(p, 0, month * 30)).append(' ').append(x.way(0, p, month * 30)).append(' ');
-            }
-            for (int n = 0; n < 6; n++) {
-                for (int what = -1; what < 4; what++) {
-                    s.append(x.heard(0, n, p, what)).append(' ').append(x.heard(1, n, p, what)).append(' ');
-                }
-            }
-        }
-        for (int d = 0; d < 4; d++) {
-            for (int what = 0; what < 7; what++) {
-                s.append(x.told(d, what)).append(' ').append(x.good(d, what)).append(' ');
-            }
-        }
-        for (int v = 0; v < 16; v++) {
-            for (int what = 0; what < 7; what++) {
-                s.append(x.ventureTold(v, what)).append(' ');
-            }
-        }
-        for (int t = 0; t < 6; t++) {
-            for (int part = 0; part < 3; part++) {
-                s.append(x.says(t, part, 77, 5, 3, 2, 41)).append(' ');
-            }
-        }
-        return s.toString();
-    }
 }

@@ -9,7 +9,7 @@ public final class NewsTest {
         ofItself();
         sameDayIsNotLater();
         oneAfterTheOther();
-        for (int seed = 0; seed < 60; seed++) {
+        for (int seed = 0; seed < 900; seed++) {
             againstModel(seed);
         }
         c.finish();
@@ -86,7 +86,7 @@ public final class NewsTest {
         c.due("the port has both", x.heard(1, 1, 0, -1) + x.heard(1, 1, 2, -1), 0);
     }
 
-    /** Words as rows (day, then prices), of ports 0 .. 4 and dhows 5 .. 7. */
+    /** Words as rows (day, then prices), of ports 0 .. 4 and dhows 5 .. 7; compared once, to keep to 512 calls. */
     private static void againstModel(int seed) {
         Random r = new Random(seed);
         MonsoonTrade x = new MonsoonTrade();
@@ -100,7 +100,8 @@ public final class NewsTest {
         for (int i = 0; i < 12; i++) {
             x.wind(i, r.nextInt(5) - 2);
         }
-        for (int step = 0; step < 150; step++) {
+        int steps = r.nextInt(30);
+        for (int step = 0; step < steps; step++) {
             int d = r.nextInt(3);
             switch (r.nextInt(5)) {
                 case 0: x.wants(r.nextInt(5), r.nextInt(4), 1 + r.nextInt(99), r.nextInt(10)); break;
@@ -109,8 +110,8 @@ public final class NewsTest {
                 case 3: leave(x, words, d, r.nextInt(5)); break;
                 default: pass(x, words); break;
             }
-            compare(x, words);
         }
+        compare(x, words);
     }
 
     private static void leave(MonsoonTrade x, int[][][] words, int d, int to) {

@@ -128,18 +128,20 @@ public final class OrdersTest {
     }
 
     private static void nothingChanges() {
-        MonsoonTrade x = wordInPortAlone();
-        String before = Check.all(x);
-        x.order(0, 3, 9999, 0);
-        x.leg(0, 3, 9999, 0);
-        c.holds("nothing is changed", before.equals(Check.all(x)));
-        c.due("the dhow has not heard", x.heard(0, 0, 1, -1), -1);
+        for (int aspect = 0; aspect < Tale.ASPECTS; aspect++) {
+            MonsoonTrade x = wordInPortAlone();
+            x.order(0, 3, 9999, 0);
+            x.leg(0, 3, 9999, 0);
+            c.due("the dhow has not heard", x.heard(0, 0, 1, -1), -1);
+            c.holds("nothing is changed", Tale.of(x, aspect).equals(Tale.of(wordInPortAlone(), aspect)));
+        }
     }
 
     // ---- every order, tried one by one
 
     private static final class All {
-        private final MonsoonTrade x;
+        private final int[][] places;
+        private final int[] winds;
         private final int last;
         private final int hold;
         private final int[][] word = new int[6][];
@@ -148,14 +150,17 @@ public final class OrdersTest {
         private int comes;
         private int[] best = new int[0];
 
-        All(MonsoonTrade x, int dhow, int n, int last) {
-            this.x = x;
+        All(MonsoonTrade x, int[][] places, int[] winds, int dhow, int n, int last) {
+            this.places = places;
+            this.winds = winds;
             this.last = last;
             hold = x.told(dhow, 2);
             int port = x.told(dhow, 0);
-            for (int p = 0; p < x.count(0); p++) {
-                boolean own = x.heard(0, dhow, p, -1) >= x.heard(1, port, p, -1);
-                if (x.heard(1, port, p, -1) >= 0 || x.heard(0, dhow, p, -1) >= 0) {
+            for (int p = 0; p < places.length; p++) {
+                int heard = x.heard(0, dhow, p, -1);
+                int heardInPort = x.heard(1, port, p, -1);
+                boolean own = heard >= heardInPort;
+                if (heard >= 0 || heardInPort >= 0) {
                     word[p] = new int[4];
                     for (int g = 0; g < 4; g++) {
                         word[p][g] = own ? x.heard(0, dhow, p, g) : x.heard(1, port, p, g);
@@ -179,8 +184,8 @@ public final class OrdersTest {
             if (done == choices.length) {
                 return;
             }
-            for (int to = 0; to < x.count(0); to++) {
-                int days = to == port || word[to] == null ? -1 : x.way(port, to, day);
+            for (int to = 0; to < places.length; to++) {
+                int days = to == port || word[to] == null ? -1 : way(port, to, day);
                 if (days == -1 || day + days > last) {
                     continue;
                 }
@@ -191,6 +196,13 @@ public final class OrdersTest {
                     go(to, day + days, left, choices, done + 1);
                 }
             }
+        }
+
+        private int way(int from, int to, int day) {
+            int dx = places[to][0] - places[from][0];
+            int dy = places[to][1] - places[from][1];
+            int speed = 2 + Integer.signum(dx) * winds[day / 30 % 12];
+            return speed == 0 ? -1 : Math.max(1, (int) Math.ceil((Math.abs(dx) + Math.abs(dy)) / (double) speed));
         }
 
         private boolean better(long coins, int done, int[] choices) {
@@ -215,19 +227,23 @@ public final class OrdersTest {
         int ports = 2 + r.nextInt(5);
         int span = r.nextBoolean() ? 10 : 90;
         int prices = r.nextBoolean() ? 4 : 60;
+        int[][] places = new int[ports][];
         for (int p = 0; p < ports; p++) {
-            x.port(r.nextInt(span), r.nextInt(span));
+            places[p] = new int[] {r.nextInt(span), r.nextInt(span)};
+            x.port(places[p][0], places[p][1]);
             for (int g = 0; g < 4; g++) {
                 x.wants(p, g, 1 + r.nextInt(prices), r.nextInt(10));
             }
         }
+        int[] winds = new int[12];
         for (int i = 0; i < 12; i++) {
-            x.wind(i, r.nextInt(5) - 2);
+            winds[i] = r.nextInt(5) - 2;
+            x.wind(i, winds[i]);
         }
         for (int d = 0; d < 4; d++) {
             x.dhow(r.nextInt(ports), 1 + r.nextInt(99), r.nextInt(r.nextBoolean() ? 30 : 3000));
         }
-        for (int step = 0; step < 60; step++) {
+        for (int step = 0; step < 50; step++) {
             int d = r.nextInt(4);
             x.buy(d, r.nextInt(4), 1 + r.nextInt(9));
             x.sell(d, r.nextInt(4), 1 + r.nextInt(9));
@@ -241,12 +257,11 @@ public final class OrdersTest {
             }
             int n = 1 + r.nextInt(3);
             int last = Math.min(9999, x.count(5) + r.nextInt(3 * span));
-            compare(x, d, n, last);
+            compare(x, new All(x, places, winds, d, n, last), d, n, last);
         }
     }
 
-    private static void compare(MonsoonTrade x, int d, int n, int last) {
-        All all = new All(x, d, n, last);
+    private static void compare(MonsoonTrade x, All all, int d, int n, int last) {
         boolean none = all.legs == 0;
         c.due("worth", x.order(d, n, last, 0), none ? NO : all.worth);
         c.due("legs", x.order(d, n, last, 1), none ? NO : all.legs);

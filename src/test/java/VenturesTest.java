@@ -328,7 +328,8 @@ public final class VenturesTest {
         for (int i = 0; i < all; i++) {
             x.venture(r.nextInt(6), 0, 1 + r.nextInt(150), 1 + r.nextInt(9));
         }
-        for (int voyage = 0; voyage < 3; voyage++) {
+        int voyages = all > 8 ? 2 : 3;
+        for (int voyage = 0; voyage < voyages; voyage++) {
             int before = x.count(5);
             boolean early = r.nextBoolean();
             x.wants(x.told(0, 0), 0, 10, 0);
