@@ -214,6 +214,7 @@ public final class DhowsEdgesTest {
         c.due("all aboard", x.told(0, 4), 20);
         x.sell(0, 1, 1);
         c.due("room for one again", x.buy(0, 0, 1), 279);
+        c.due("one more of a good of which there were 7", x.good(0, 0), 8);
         c.due("least hold, two", leastHold().buy(0, 0, 2), -3);
         c.due("least hold, one", leastHold().buy(0, 0, 1), 89);
     }

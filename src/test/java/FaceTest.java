@@ -6,6 +6,7 @@ import java.lang.reflect.Modifier;
 import java.nio.file.Files;
 import java.nio.file.Path;
 import java.util.Arrays;
+import java.util.List;
 import java.util.Set;
 import java.util.TreeSet;
 import java.util.regex.Matcher;
@@ -20,7 +21,12 @@ public final class FaceTest {
     public static void main(String[] args) throws IOException {
         face();
         members();
+        fields(MonsoonTrade.class);
+        for (Class<?> k : MonsoonTrade.class.getDeclaredClasses()) {
+            fields(k);
+        }
         words(Files.readString(SOURCE));
+        methodsAreShort(Files.readAllLines(SOURCE));
         c.finish();
     }
 
@@ -73,11 +79,42 @@ public final class FaceTest {
         c.holds("some twelve classes", inside.length <= 12);
         for (Class<?> k : inside) {
             c.holds("static " + k, Modifier.isStatic(k.getModifiers()) && !Modifier.isPublic(k.getModifiers()));
-            c.holds("some twenty fields in " + k, k.getDeclaredFields().length <= 30);
             for (Method m : k.getDeclaredMethods()) {
                 c.holds("another name than a public one's: " + m, !open.contains(m.getName()));
                 c.holds("seven parameters at most: " + m, m.getParameterCount() <= 7);
             }
+        }
+    }
+
+    /** Rule 5: static fields are final constants of a few types; rule 11: some twenty fields beside these. */
+    private static void fields(Class<?> k) {
+        Set<Class<?>> constants = Set.of(int.class, long.class, boolean.class, char.class, String.class, int[].class,
+                long[].class, char[].class, byte[].class);
+        int own = 0;
+        for (Field f : k.getDeclaredFields()) {
+            if (!Modifier.isStatic(f.getModifiers())) {
+                own++;
+                continue;
+            }
+            c.holds("final: " + f, Modifier.isFinal(f.getModifiers()));
+            c.holds("a constant's type: " + f, constants.contains(f.getType()));
+        }
+        c.holds("some twenty fields in " + k, own <= 20);
+    }
+
+    /** Rule 11: some sixty lines; a method's header and end stand at 4 signs in the class, at 8 in one inside. */
+    private static void methodsAreShort(List<String> lines) {
+        Pattern header = Pattern.compile("( {4}| {8})(?! )(?!.*\\b(class|interface|enum)\\b).*\\) \\{");
+        for (int i = 0; i < lines.size(); i++) {
+            Matcher m = header.matcher(lines.get(i));
+            if (!m.matches()) {
+                continue;
+            }
+            int end = i;
+            while (end < lines.size() && !lines.get(end).equals(m.group(1) + "}")) {
+                end++;
+            }
+            c.holds("some sixty lines: " + lines.get(i), end - i < 60);
         }
     }
 
@@ -93,6 +130,7 @@ public final class FaceTest {
         while (imports.find()) {
             c.holds("import " + imports.group(1), imports.group(1).equals("java.util.Arrays"));
         }
+        c.holds("no text is joined by +", !Pattern.compile("\"\\s*\\+|\\+\\s*\"").matcher(code).find());
         c.holds("plain signs", source.chars().allMatch(b -> b == 10 || b >= 32 && b < 127));
     }
 }

@@ -27,7 +27,9 @@ public final class OrdersEdgesTest {
         thePortsLaterWord();
         theDhowsLaterWord();
         wordsOfTheSameDay();
+        pricesAsTold();
         aPortWithoutAWord();
+        wordsOfAnotherDhow();
         theLastDay();
         theLastDayOfManyLegs();
         theLastOfAllDays();
@@ -346,6 +348,23 @@ public final class OrdersEdgesTest {
         order("it came yesterday", x, 1, 9999, 100 + 10 * 7, 21);
     }
 
+    /** "PRICES as told there": whatever they are by now, here or in another port. */
+    private static void pricesAsTold() {
+        MonsoonTrade x = two();
+        x.wants(1, 0, 1, 0);
+        x.wants(1, 3, 99, 0);
+        order("port 1 has moved since", x, 1, 9999, 200, 1);
+        MonsoonTrade y = toured(10, 60, of(20, 9, 9, 9), of(5, 9, 9, 9));
+        y.wants(1, 0, 99, 0);
+        order("what would be bought in port 1", y, 2, 9999, 200, 41, 0);
+        MonsoonTrade z = two();
+        z.buy(0, 0, 10);
+        z.wants(0, 0, 99, 0);
+        order("what is aboard, told today of port 0", z, 1, 9999, 50 - 48 + 8 * 20, 1);
+        z.days(1);
+        order("a day later", z, 1, 9999, 990, 41);
+    }
+
     /** "A PORT of which it has no WORD can't be in it": not as the last, not on the way. */
     private static void aPortWithoutAWord() {
         MonsoonTrade x = two();
@@ -363,6 +382,17 @@ public final class OrdersEdgesTest {
         c.due("never at sea, but the port has a word", z.order(0, 1, 9999, 0), 100);
     }
 
+    /** What another DHOW has heard is of no use here. */
+    private static void wordsOfAnotherDhow() {
+        MonsoonTrade x = two();
+        x.port(0, 4);
+        x.dhow(2, 10, 60);
+        c.due("dhow 0 knows two ports", x.order(0, 1, 9999, 0), 200);
+        c.due("dhow 1 knows none but its own", x.order(1, 1, 9999, 0), NO);
+        c.due("no leg", x.leg(1, 1, 9999, 0), -1);
+        c.due("dhow 0 knows them still", x.order(0, 1, 9999, 0), 200);
+    }
+
     // ---- days
 
     /** "the DAY on which it would come to the last PORT is at most that" */
@@ -373,6 +403,7 @@ public final class OrdersEdgesTest {
         order("when it comes", x, 3, 3, 200, 1);
         order("a day later", x, 3, 4, 200, 1);
         c.due("its day", x.order(0, 3, 3, 2), 3);
+        order("the day, behind a later one", x, 3, 2, 0);
     }
 
     private static void theLastDayOfManyLegs() {

@@ -143,15 +143,16 @@ public final class SheetsEdgesTest {
         c.due("the first", x.way(0, 1, 0), 12);
     }
 
-    /** The wind that stands in a cell, by the days of a way of 12. */
+    /** Two ports 60 apart: a way that tells every speed from 1 to 5. */
+    private static MonsoonTrade sixtyApart() {
+        return Scene.ports(0, 0, 60, 0);
+    }
+
+    /** The wind of a month where ports 0 and 1 are 60 apart. */
     private static int windOf(MonsoonTrade x, int month) {
-        switch (x.way(0, 1, 30 * month)) {
-            case 12: return -1;
-            case 6: return 0;
-            case 4: return 1;
-            case 3: return 2;
-            default: return -2;
-        }
+        int there = x.way(0, 1, 30 * month);
+        int back = x.way(1, 0, 30 * month);
+        return there == -1 ? 2 - 60 / Math.max(1, back) : 60 / there - 2;
     }
 
     /** "of bytes, shorts its lowest 8, 16 bits": where these come round. */
@@ -161,7 +162,7 @@ public final class SheetsEdgesTest {
         for (int number : numbers) {
             int[] due = {(byte) number, (short) number, number};
             for (int sort = 0; sort < SORTS; sort++) {
-                MonsoonTrade x = Scene.plain();
+                MonsoonTrade x = sixtyApart();
                 x.sheet(0, sort, 3);
                 c.due("cell", x.cell(0, 1, number), 1);
                 c.due("winds", x.winds(0, sort, 0, 3), 3);
@@ -171,7 +172,7 @@ public final class SheetsEdgesTest {
                 c.due("behind " + what, windOf(x, 2), 0);
             }
         }
-        MonsoonTrade x = Scene.plain();
+        MonsoonTrade x = sixtyApart();
         x.sheet(0, 0, 1);
         x.cell(0, 0, 255);
         x.winds(0, 0, 0, 1);
@@ -250,7 +251,7 @@ public final class SheetsEdgesTest {
     /** "-12: what stood ahead came" */
     private static void windsBringWhatStoodAhead() {
         for (int from = 0; from < 5; from++) {
-            MonsoonTrade x = Scene.plain();
+            MonsoonTrade x = sixtyApart();
             x.sheet(0, 0, 5);
             for (int i = 0; i < 5; i++) {
                 x.cell(0, i, i % 2 == 0 ? 1 : -1);
@@ -278,7 +279,7 @@ public final class SheetsEdgesTest {
     /** "MONTHS 0, 1, .." to the last, and no further than n. */
     private static void windsOfAllMonths() {
         for (int n = 0; n <= 12; n++) {
-            MonsoonTrade x = Scene.plain();
+            MonsoonTrade x = sixtyApart();
             x.sheet(3, 2, 40);
             for (int i = 0; i < 12; i++) {
                 x.cell(3, 28 + i, i % 4 - 1);
@@ -296,7 +297,7 @@ public final class SheetsEdgesTest {
         int[] items = {-128, -100, -3, -2, -1, 0, 1, 2, 3, 100, 127};
         int[] due = {-2, -2, -2, -2, -1, 0, 1, 2, 2, 2, 2};
         for (int sort = 0; sort < SORTS; sort++) {
-            MonsoonTrade x = Scene.plain();
+            MonsoonTrade x = sixtyApart();
             x.sheet(0, sort, items.length);
             for (int i = 0; i < items.length; i++) {
                 x.cell(0, i, items[i]);

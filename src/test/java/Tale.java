@@ -117,8 +117,8 @@ final class Tale {
     }
 
     private void sheets() {
-        while (x.count(0) < 2) {
-            x.port(12 * x.count(0), 0);
+        for (int port = x.count(0); port < 2; port++) {
+            x.port(12 * port, 0);
         }
         for (int sheet = 0; sheet < 4; sheet++) {
             for (int sort = 0; sort < 3; sort++) {

@@ -10,6 +10,7 @@ public final class TextsEdgesTest {
         feedTakesTheLowestBytes();
         textFull();
         textEmptiesTheTape();
+        textBehindAFault();
         textOfAnEmptyTape();
         textOfAFullTape();
         blanks();
@@ -162,6 +163,22 @@ public final class TextsEdgesTest {
         c.due("160 bytes again", Check.feed(x, times(" ", 160)), 160);
     }
 
+    /** What a FAULT left behind counts for no other TEXT. */
+    private static void textBehindAFault() {
+        String[] faulty = {"part (((((x", "part not not not not not x", "part -----x", "part (((((1)))));food ((((((", "part 1+2*",
+            times("((", 80), "part 1;food 2;loan 3; x                    "};
+        for (String text : faulty) {
+            MonsoonTrade x = new MonsoonTrade();
+            c.holds("a fault: " + text, Check.text(x, text) <= -100);
+            c.due("a good one behind it", Check.text(x, "part(((((7)))));food-----8;loan 9;"), 1);
+            c.due("its part", x.says(1, 0, 0, 0, 0, 0, 0), 7);
+            c.due("its food", x.says(1, 1, 0, 0, 0, 0, 0), -8);
+            c.due("its loan", x.says(1, 2, 0, 0, 0, 0, 0), 9);
+            c.due("a fault behind it", Check.text(x, "part((((((7))))));"), -109);
+            c.due("it ends too early behind longer ones", Check.text(x, "part 1;"), -107);
+        }
+    }
+
     private static void textOfAnEmptyTape() {
         c.due("empty", text(""), -100);
         c.due("a blank", text(" "), -101);
@@ -175,13 +192,24 @@ public final class TextsEdgesTest {
         c.due("blanks ahead, to the end", text(times("\n", 139) + whole), 1);
         c.due("the last byte is wrong", text(whole + times(" ", 138) + "!"), -259);
         c.due("the last byte is missing", text(times(" ", 140) + "part 1;food 2;loan 3"), -260);
+        for (String word : new String[] {"par", "part", "gai", "gain", "x", "no", "not", "9", "-", "("}) {
+            boolean stands = word.equals("part");
+            c.due("ends in " + word, text(times(" ", 160 - word.length()) + word), stands ? -260 : -260 + word.length());
+            String ahead = "part 1+";
+            boolean is = word.equals("gain") || word.equals("9") || word.equals("-") || word.equals("(");
+            String tape = times(" ", 160 - word.length() - ahead.length()) + ahead + word;
+            c.due("ends in a part in " + word, text(tape), is ? -260 : -260 + word.length());
+        }
         String sum = "1" + times("+1", 71);
         MonsoonTrade x = new MonsoonTrade();
-        c.due("as many tokens as can be", Check.text(x, "part" + sum + ";food2;loan1;"), 1);
-        c.due("its part", x.says(1, 0, 0, 0, 0, 0, 0), 72);
-        MonsoonTrade y = new MonsoonTrade();
-        c.due("as much in the last part", Check.text(y, "part1;food1;loan" + sum + ";"), 1);
-        c.due("its part", y.says(1, 2, 0, 0, 0, 0, 0), 72);
+        for (int i = 1; i < 6; i++) {
+            String text = i % 2 == 1 ? "part" + sum + ";food2;loan1;" : "part1;food2;loan" + sum + ";";
+            c.due("its size", text.length(), 160);
+            c.due("as many tokens as can be", Check.text(x, text), i);
+            c.due("its part", x.says(i, 0, 0, 0, 0, 0, 0), i % 2 == 1 ? 72 : 1);
+            c.due("its food", x.says(i, 1, 0, 0, 0, 0, 0), 2);
+            c.due("its loan", x.says(i, 2, 0, 0, 0, 0, 0), i % 2 == 1 ? 1 : 72);
+        }
     }
 
     // ---- TOKENS
@@ -225,6 +253,8 @@ public final class TextsEdgesTest {
         fault("gain`", 4);
         fault("gain{", 4);
         fault("gainS", 4);
+        fault("gaina", 0);
+        fault("gainz", 0);
         fault("12/", 2);
         fault("12:", 2);
         stands("0");
@@ -280,6 +310,10 @@ public final class TextsEdgesTest {
         fault("1 o 1", 2);
         fault("1 orr 1", 2);
         fault("1 an 1", 2);
+        fault("not x 1", 4);
+        fault("- x 1", 2);
+        fault("(x 1)", 1);
+        fault("1+x 1", 2);
         fault("1 gain", 2);
         fault("1 not 1", 2);
         c.due("a word that is none for a key", text("parts 1;food 2;loan 3;"), -100);

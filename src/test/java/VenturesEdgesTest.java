@@ -24,6 +24,7 @@ public final class VenturesEdgesTest {
         lossByKind();
         lossOfOneDhowAlone();
         lossOfALoanThatIsOver();
+        lossOfALoanThatIsPartlyPaid();
         lossTwice();
         c.finish();
     }
@@ -49,6 +50,10 @@ public final class VenturesEdgesTest {
             c.due("greatest amount", x.ventureTold(1, 2), 9999);
             c.due("greatest parts", x.ventureTold(1, 3), 9);
         }
+        MonsoonTrade rich = Scene.ports(0, 0);
+        rich.dhow(0, 1, 99999);
+        rich.venture(0, 0, 9999, 1);
+        c.due("a purse may grow beyond 99999", rich.told(0, 3), 109998);
         e.due("on the last dhow", Scene.BUSY, 8, x -> x.venture(5, 3, 10, 1));
     }
 
@@ -312,6 +317,26 @@ public final class VenturesEdgesTest {
         c.due("still over", x.ventureTold(0, 5), 1);
         x.dhow(0, 1, 0);
         c.due("does not wait", x.on(0, 1), -3);
+    }
+
+    /** What is left of its OWED, and what it got, go on. */
+    private static void lossOfALoanThatIsPartlyPaid() {
+        MonsoonTrade x = Scene.plain();
+        Check.text(x, "part 1;food 0;loan 30;");
+        x.force(1);
+        x.venture(LOAN, 0, 50, 4);
+        x.begin(0);
+        x.buy(0, 0, 1);
+        x.wants(0, 0, 51, 0);
+        x.sell(0, 0, 1);
+        x.end(0);
+        told("30 of 40 are paid", x, 0, LOAN, 0, 50, 4, 20, 0, 10);
+        x.sail(0, 1);
+        x.lose(0);
+        told("it waits", x, 0, LOAN, -1, 50, 4, 20, 0, 10);
+        x.dhow(0, 1, 0);
+        x.on(0, 1);
+        told("on another", x, 0, LOAN, 1, 50, 4, 20, 0, 10);
     }
 
     private static void lossTwice() {

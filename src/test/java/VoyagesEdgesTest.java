@@ -15,6 +15,7 @@ public final class VoyagesEdgesTest {
         endWithoutBegin();
         endTwice();
         gain();
+        gainBeyondWhatIsAsked();
         men();
         menOfOthers();
         days();
@@ -188,6 +189,23 @@ public final class VoyagesEdgesTest {
             trade(y, coins);
             ends("loss " + coins, y, coins < 0 ? 100 + 2 * coins < 0 ? 0 : 100 + 2 * coins : 100 + coins);
         }
+    }
+
+    /** says takes a gain of 100000 at most; a voyage may have a greater one. */
+    private static void gainBeyondWhatIsAsked() {
+        MonsoonTrade x = Scene.ports(0, 0);
+        Check.text(x, "part 0;food gain-10*9999;loan 0;");
+        x.force(1);
+        x.dhow(0, 99, 1000);
+        x.begin(0);
+        for (int i = 0; i < 11; i++) {
+            x.wants(0, 0, 1, 0);
+            x.buy(0, 0, 99);
+            x.wants(0, 0, 99, 0);
+            x.sell(0, 0, 99);
+        }
+        c.due("purse", x.told(0, 3), 1000 + 11 * 99 * 97);
+        c.due("food of a gain of 105633", x.end(0), 1000 + 99990);
     }
 
     /** What goes out of the purse by the voyage's end. */
