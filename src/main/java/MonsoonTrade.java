@@ -47,7 +47,10 @@ public final class MonsoonTrade {
             sheets[i] = new Sheet();
         }
         tape.addAll(FIRST_TEXT);
-        text();
+        reader.read();
+        tape.clear();
+        texts[0].keep(reader);
+        textCount = 1;
     }
 
     // ---- ports, winds and ways
